@@ -202,7 +202,7 @@ public final class PartedPension {
             case 5: return asked.survivor;
             case 6: return asked.claims;
             case 7: return asked.dies;
-            case 8: return plan.wedService(asked);
+            case 8: return asked.served;
             case 9: return plan.beginOf(asked);
             default: throw new NoSuchElementException("a spouse has no such number");
         }
@@ -216,7 +216,7 @@ public final class PartedPension {
 
     public int benefit(int what) {
         switch (what) {
-            case 0: return plan.served();
+            case 0: return plan.served;
             case 1: return plan.finalPay();
             case 2: return plan.basePay();
             case 3: return plan.firstPay();
@@ -237,11 +237,11 @@ public final class PartedPension {
             return NONE;
         }
         Spouse asked = plan.spouses[k];
-        int upper = asked.portion * plan.wedService(asked);
+        int upper = asked.portion * asked.served;
         if (upper == 0) {
             return under ? 1 : 0;
         }
-        int lower = 1000 * plan.served();
+        int lower = 1000 * plan.served;
         int common = commonDivisor(upper, lower);
         if (common == 0) {
             return NONE;
@@ -409,6 +409,8 @@ public final class PartedPension {
         private int survivor;
         private int claims;
         private int dies;
+        /** W: it follows from the spans, which only a text changes, so the plan keeps it here. */
+        private int served;
 
         private void begin(int bornIn, int wedIn) {
             born = bornIn;
@@ -419,6 +421,7 @@ public final class PartedPension {
             survivor = 0;
             claims = 0;
             dies = NONE;
+            served = 0;
         }
 
         private void copyFrom(Spouse other) {
@@ -430,6 +433,7 @@ public final class PartedPension {
             survivor = other.survivor;
             claims = other.claims;
             dies = other.dies;
+            served = other.served;
         }
 
         private boolean isPartedBy(int month) {
@@ -508,6 +512,7 @@ public final class PartedPension {
         private final int[] terms = new int[TERMS];
         private final Span[] spans = new Span[MOST_SPANS];
         private int spanCount;
+        private int served;
         private final Spouse[] spouses = new Spouse[MOST_SPOUSES];
         private int spouseCount;
         private final LifeTable table = new LifeTable();
@@ -530,6 +535,7 @@ public final class PartedPension {
                 terms[i] = TERMS_AT_FIRST[i];
             }
             spanCount = 0;
+            served = 0;
             spouseCount = 0;
             table.told = 0;
         }
@@ -542,6 +548,7 @@ public final class PartedPension {
                 terms[i] = other.terms[i];
             }
             spanCount = other.spanCount;
+            served = other.served;
             for (int i = 0; i < spanCount; i++) {
                 spans[i].copyFrom(other.spans[i]);
             }
@@ -576,6 +583,7 @@ public final class PartedPension {
             free.to = to;
             free.pay = pay;
             spanCount++;
+            recount();
             return true;
         }
 
@@ -603,6 +611,7 @@ public final class PartedPension {
             last.portion = portion;
             last.how = how;
             last.survivor = survivor;
+            recount();
             return true;
         }
 
@@ -626,10 +635,10 @@ public final class PartedPension {
             if (what == SET_DIES) {
                 return v == NONE || (isMonth(v) && v > born);
             }
-            return hasSpouse(k) && canChangeSpouse(spouses[k], what, v);
-        }
-
-        private static boolean canChangeSpouse(Spouse spouse, int what, int v) {
+            if (!hasSpouse(k)) {
+                return false;
+            }
+            Spouse spouse = spouses[k];
             boolean isParted = spouse.parted != NONE;
             switch (what) {
                 case SET_PORTION: return isParted && isWithin(SLOT_PART, v);
@@ -693,24 +702,28 @@ public final class PartedPension {
         private int serviceWithin(int a, int b) {
             int months = 0;
             for (int i = 0; i < spanCount; i++) {
-                months += Math.max(0, Math.min(b, spans[i].to) - Math.max(a, spans[i].from));
+                int from = a > spans[i].from ? a : spans[i].from;
+                int to = b < spans[i].to ? b : spans[i].to;
+                months += to > from ? to - from : 0;
             }
             return months;
         }
 
-        private int served() {
-            return serviceWithin(0, MONTHS);
-        }
-
-        private int wedService(Spouse spouse) {
-            return spouse.parted == NONE ? 0 : serviceWithin(spouse.wed, spouse.parted);
+        private void recount() {
+            served = serviceWithin(0, MONTHS);
+            for (int k = 0; k < spouseCount; k++) {
+                Spouse spouse = spouses[k];
+                spouse.served = spouse.parted == NONE ? 0 : serviceWithin(spouse.wed, spouse.parted);
+            }
         }
 
         private int finalPay() {
             int months = 0;
             int pay = 0;
             for (int i = spanCount - 1; i >= 0; i--) {
-                int taken = Math.min(FINAL_MONTHS - months, spans[i].to - spans[i].from);
+                int left = FINAL_MONTHS - months;
+                int there = spans[i].to - spans[i].from;
+                int taken = there < left ? there : left;
                 months += taken;
                 pay += taken * spans[i].pay;
             }
@@ -718,7 +731,7 @@ public final class PartedPension {
         }
 
         private int basePay() {
-            return (int) ((long) finalPay() * terms[PER] * served() / 120000L);
+            return (int) ((long) finalPay() * terms[PER] * served / 120000L);
         }
 
         private int firstPay() {
@@ -731,11 +744,10 @@ public final class PartedPension {
         }
 
         private long shareOf(Spouse spouse, int whole) {
-            int months = served();
-            if (months == 0) {
+            if (served == 0) {
                 return 0L;
             }
-            return (long) whole * spouse.portion * wedService(spouse) / (1000L * months);
+            return (long) whole * spouse.portion * spouse.served / (1000L * served);
         }
 
         private int beginOf(Spouse spouse) {
@@ -794,18 +806,13 @@ public final class PartedPension {
         private void fillWholes(Plan plan) {
             long value = 0L;
             for (int m = 0; m < MONTHS; m++) {
-                if (plan.retires != NONE && m >= plan.retires) {
-                    value = wholeAfter(plan, m - plan.retires, value);
+                if (m == plan.retires) {
+                    value = plan.firstPay();
+                } else if (plan.retires != NONE && m > plan.retires && (m - plan.retires) % 12 == 0) {
+                    value = value * (1000 + plan.terms[COLA]) / 1000L;
                 }
                 wholes[m] = (int) value;
             }
-        }
-
-        private static long wholeAfter(Plan plan, int months, long before) {
-            if (months == 0) {
-                return plan.firstPay();
-            }
-            return months % 12 == 0 ? before * (1000 + plan.terms[COLA]) / 1000L : before;
         }
 
         private void fillDiscounts(Plan plan) {
@@ -911,40 +918,33 @@ public final class PartedPension {
 
         // -- worths
 
+        /** Leaves the ODDS it has used in spouseOdds: bestClaim goes on with them. */
         private long annuityOf(Plan plan, int born, int t, int s) {
             fillDiscounts(plan);
             fillOdds(plan, born, t, spouseOdds);
-            return annuityBy(spouseOdds, t, s);
-        }
-
-        private long annuityBy(int[] odds, int t, int s) {
             long all = 0L;
             for (int m = s; m < MONTHS; m++) {
-                all += annuityIn(odds, t, m);
+                all += annuityIn(t, m);
             }
             return all;
         }
 
-        private long annuityIn(int[] odds, int t, int m) {
-            return (long) discounts[m - t] * odds[m] / ONE;
+        private long annuityIn(int t, int m) {
+            return (long) discounts[m - t] * spouseOdds[m] / ONE;
         }
 
         private long ownOf(Plan plan, Spouse spouse) {
             if (plan.retires == NONE || plan.born > plan.retires || spouse.born > plan.retires) {
                 return 0L;
             }
-            long fund = fundOf(plan, spouse);
-            return ownBy(fund, annuityOf(plan, spouse.born, plan.retires, plan.beginOf(spouse)));
-        }
-
-        /** What the SHARE would bring as long as THE MEMBER lives: OWN spreads this over the SPOUSE's life. */
-        private long fundOf(Plan plan, Spouse spouse) {
             long share = plan.shareOf(spouse, plan.firstPay());
-            return share * annuityOf(plan, plan.born, plan.retires, plan.retires) / ONE;
+            long members = annuityOf(plan, plan.born, plan.retires, plan.retires);
+            return ownBy(share, members, annuityOf(plan, spouse.born, plan.retires, plan.beginOf(spouse)));
         }
 
-        private static long ownBy(long fund, long annuity) {
-            return annuity == 0L ? 0L : Math.min(ONE, fund * ONE / annuity);
+        /** What the SHARE would bring as long as THE MEMBER lives is spread over the SPOUSE's life. */
+        private static long ownBy(long share, long members, long theirs) {
+            return theirs == 0L ? 0L : Math.min(ONE, share * members / ONE * ONE / theirs);
         }
 
         private long worthOfAll(Plan plan, int t) {
@@ -998,18 +998,18 @@ public final class PartedPension {
             if (spouse.how == SHARED) {
                 return t;
             }
-            long fund = fundOf(plan, spouse);
-            fillOdds(plan, spouse.born, t, spouseOdds);
-            long annuity = annuityBy(spouseOdds, t, t);
+            long share = plan.shareOf(spouse, plan.firstPay());
+            long members = annuityOf(plan, plan.born, t, t);
+            long theirs = annuityOf(plan, spouse.born, t, t);
             int best = t;
             long most = -1L;
             for (int claim = t; claim <= t + CLAIM_MONTHS && claim < MONTHS; claim++) {
-                long worth = worthApart(ownBy(fund, annuity), t, claim);
+                long worth = worthApart(ownBy(share, members, theirs), t, claim);
                 if (worth > most) {
                     most = worth;
                     best = claim;
                 }
-                annuity -= annuityIn(spouseOdds, t, claim);
+                theirs -= annuityIn(t, claim);
             }
             return best;
         }
@@ -1017,23 +1017,19 @@ public final class PartedPension {
         /** WORTH never falls while PORTION rises, so the least is found by halving what is left. */
         private int leastHalf(Plan plan, Spouse spouse) {
             long all = worthOfAll(plan, plan.retires);
+            changed.copyFrom(spouse);
             int low = 0;
             int high = 1001;
             for (int step = 0; step < 16 && low < high; step++) {
                 int middle = (low + high) / 2;
-                if (middle <= 1000 && 2L * worthByPortion(plan, spouse, middle) < all) {
+                changed.portion = middle;
+                if (middle <= 1000 && 2L * worthOfSpouse(plan, changed, plan.retires) < all) {
                     low = middle + 1;
                 } else {
                     high = middle;
                 }
             }
             return low > 1000 ? NONE : low;
-        }
-
-        private long worthByPortion(Plan plan, Spouse spouse, int portion) {
-            changed.copyFrom(spouse);
-            changed.portion = portion;
-            return worthOfSpouse(plan, changed, plan.retires);
         }
     }
 
