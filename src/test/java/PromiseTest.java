@@ -80,7 +80,9 @@ public final class PromiseTest {
         due("fault()", x.fault(), 0);
         due("undo()", x.undo(), NONE);
         due("tell()", x.tell(), 0);
-        due("benefit(2)", x.benefit(2), 0);
+        for (int what = 0; what < 4; what++) {
+            due("benefit(" + what + ")", x.benefit(what), 0);
+        }
         due("whole(0)", x.whole(0), 0);
         due("happens(0)", x.happens(0), NONE);
         due("paid(5, 10)", x.paid(5, 10), 0);
@@ -142,6 +144,13 @@ public final class PromiseTest {
         for (int what = 0; what < anew.length; what++) {
             due("count(" + what + ") behind born", x.count(what), anew[what]);
         }
+        Feeder.tell(x, "born 0;serve 240 480 5;wed 0 250;part 300 7 apart 8;claim 0 9;lost 0 10;born 44;wed 45 46;");
+        int[] wedAnew = {45, 46, NONE, 0, 0, 0, 0, NONE, 0, NONE};
+        for (int what = 0; what < wedAnew.length; what++) {
+            due("spouse(0, " + what + ") behind born", spouse(x, 0, what), wedAnew[what]);
+        }
+        due("N behind born", x.benefit(0), 0);
+        x.undo();
         due("a fault", Feeder.tell(x, "born 7;per 9;wed 50 49;"), NONE);
         due("count(3)", x.count(3), 44);
         due("count(10)", x.count(10), 200);
@@ -155,6 +164,13 @@ public final class PromiseTest {
         fault("Born 5;", 1, 0);
         fault("bornx 5;", 1, 0);
         fault("bor 5;", 1, 0);
+        fault("zorn 5;", 1, 0);
+        fault("bornz 5;", 1, 0);
+        fault("borna 5;", 1, 0);
+        fault("born{5;", 1, 4);
+        fault("born`5;", 1, 4);
+        fault("born/5;", 1, 4);
+        fault("born:5;", 1, 4);
         fault("5;", 1, 0);
         fault(";", 1, 0);
         fault("born;", 1, 4);
@@ -219,6 +235,7 @@ public final class PromiseTest {
         fault("serve 4 8 1;retire 7;", 4, 12);
         fault("retire 7;serve 4 8 1;", 4, 9);
         fine("serve 4 8 1;retire 8;serve 2 4 1;", 3);
+        fine("retire 8;serve 4 8 1;", 2);
         fault("born 8;retire 7;", 4, 7);
         fine("born 8;retire 8;", 2);
         fault("born 8;dies 8;", 4, 7);
@@ -234,6 +251,9 @@ public final class PromiseTest {
         fault("wed 3 5;lost 0 3;", 4, 8);
         fault("lives 5 50;lives 6 51;", 4, 11);
         fault("lives 6 51; lives 5 50;", 4, 12);
+        fault("lives 5 60;lives 6 50;lives 5 49;", 4, 22);
+        fault("lives 5 60;lives 6 50;lives 6 61;", 4, 22);
+        fine("lives 5 60;lives 6 50;lives 6 60;lives 5 60;", 4);
         fault("lives 1 1;lives 2 1;lives 3 1;lives 4 1;lives 5 1;lives 6 1;lives 7 1;lives 8 1;lives 9 1;lives 10 1;lives 11 1;",
             4, 101);
         fine("lives 1 1;lives 2 1;lives 3 1;lives 4 1;lives 5 1;lives 6 1;lives 7 1;lives 8 1;lives 9 1;lives 10 1;lives 10 0;", 11);
@@ -399,6 +419,14 @@ public final class PromiseTest {
         due("FIRST, 0 at least", x.benefit(3), 0);
         due("benefit(4)", x.benefit(4), NONE);
         due("benefit(-1)", x.benefit(-1), NONE);
+        x = told("serve 5 6 5;");
+        due("FINAL of one", x.benefit(1), 5);
+        x = told("serve 240 480 100000;early 10;retire 680;");
+        due("FIRST, 100 months by 10", x.benefit(3), 0);
+        x.set(0, 0, 600);
+        due("FIRST, 180 months by 10", x.benefit(3), 0);
+        x.set(0, 0, 681);
+        due("FIRST, 99 months by 10", x.benefit(3), 400);
         x = told("serve 240 250 7;serve 260 263 8;");
         due("FINAL of fewer", x.benefit(1), 7);
         x = told("born 100;serve 100 1799 1000000;per 400;retire 1799;");
@@ -417,6 +445,11 @@ public final class PromiseTest {
         }
         x.set(6, 0, 790);
         due("whole behind DIES", x.whole(804), 416);
+        x = told("serve 240 480 1000000;retire 785;cola 30;");
+        int[][] large = {{785, 400000}, {792, 400000}, {796, 400000}, {797, 412000}, {808, 412000}, {809, 424360}, {821, 437090}};
+        for (int[] row : large) {
+            due("whole(" + row[0] + ") by COLA 30", x.whole(row[0]), row[1]);
+        }
         x.set(0, 0, NONE);
         due("whole without RETIRES", x.whole(900), 0);
     }
@@ -543,11 +576,27 @@ public final class PromiseTest {
         due("happens(max)", x.happens(Integer.MAX_VALUE), NONE);
         x.set(0, 0, NONE);
         due("no BEGIN without RETIRES", x.happens(5), 80060);
+        happensFully();
         x = told("serve 30 40 1;serve 20 30 1;wed 0 30;part 40 1 apart 1;retire 40;claim 0 45;");
         int[] second = {2000, 3001, 3010, 3020, 4011, 4030, 4040, 4550, NONE};
         for (int i = 0; i < second.length; i++) {
             due("second happens(" + i + ")", x.happens(i), second[i]);
         }
+    }
+
+    /** As much as can happen: 16 of SPANS, 16 of SPOUSES, RETIRES, DIES. */
+    private static void happensFully() {
+        PartedPension x = told("serve 0 1 1;serve 1 2 1;serve 2 3 1;serve 3 4 1;serve 4 5 1;serve 5 6 1;serve 6 7 1;serve 7 8 1;");
+        Feeder.tell(x, "wed 0 0;part 1 1 apart 1;wed 0 1;part 2 1 apart 1;wed 0 2;part 3 1 apart 1;wed 0 3;part 4 1 apart 1;");
+        Feeder.tell(x, "lost 0 1;lost 1 1;lost 2 1;lost 3 1;dies 1;retire 8;");
+        due("happens(0)", x.happens(0), 0);
+        due("happens(1)", x.happens(1), 20);
+        due("happens(2)", x.happens(2), 101);
+        due("happens(10)", x.happens(10), 170);
+        due("happens(28)", x.happens(28), 817);
+        due("happens(29)", x.happens(29), 840);
+        due("happens(33)", x.happens(33), 853);
+        due("happens(34)", x.happens(34), NONE);
     }
 
     private static void lives() {
@@ -661,6 +710,15 @@ public final class PromiseTest {
         due("CLAIMS do not count", x.claimBest(0), 1617);
         x.set(1, 0, 520);
         due("571 is prime: 2 times 285, not 1 in 1799", x.claimBest(0), 1515);
+        x.set(0, 0, 1429);
+        x.set(1, 0, 110);
+        due("131 is first had by 131 months, 240 behind RETIRES", x.claimBest(0), 1669);
+        x.set(0, 0, 1434);
+        x.set(1, 0, 180);
+        due("125 is had by 125 months only, 241 behind RETIRES", x.claimBest(0), 1434);
+        x.set(0, 0, 1799);
+        due("not beyond 1799", x.claimBest(0), 1799);
+        x.set(0, 0, 1430);
         x.set(1, 0, 0);
         due("all alike", x.claimBest(0), 1430);
         x.set(2, 0, 0);
@@ -682,6 +740,8 @@ public final class PromiseTest {
         x = told("serve 240 480 1000;wed 0 300;part 430 1 shared 1000;retire 780;" + FLAT);
         due("201 is 928 by 13 by 60", x.half(0), 928);
         due("PORTION stays", spouse(x, 0, 3), 1);
+        x = told("serve 240 480 600;wed 0 300;part 421 1 shared 1000;retire 780;" + FLAT);
+        due("121 of 240 by 1000 alone", x.half(0), 1000);
         x = told("serve 240 480 0;wed 0 300;part 430 1 shared 1000;retire 780;wed 0 500;");
         due("half of 0", x.half(0), 0);
         due("not PARTED", x.half(1), NONE);
