@@ -267,6 +267,8 @@ public final class PromiseTest {
     }
 
     private static void set() {
+        due("RETIRES in 0", new PartedPension().set(0, 0, 0), true);
+        due("DIES in 1", new PartedPension().set(6, 0, 1), true);
         PartedPension x = told("born 100; serve 200 300 5; wed 50 200; part 260 500 shared 600; wed 90 270;");
         due("RETIRES ahead of TO", x.set(0, 0, 299), false);
         due("RETIRES", x.set(0, 99, 300), true);
@@ -381,6 +383,9 @@ public final class PromiseTest {
             }
         }
         x.set(0, 0, 800);
+        Feeder.tell(x, "serve 230 240 1;");
+        due("W with a span more", spouse(x, 0, 8), 20);
+        due("W, not PARTED", spouse(x, 1, 8), 0);
         due("BEGIN is CLAIMS", spouse(x, 0, 9), 900);
         due("BEGIN is RETIRES", spouse(x, 1, 9), 800);
         due("spouse(2, 0)", spouse(x, 2, 0), THROWN);
@@ -466,6 +471,9 @@ public final class PromiseTest {
         x.set(1, 0, 7);
         due("upper", x.share(0, false), 7);
         due("lower", x.share(0, true), 2000);
+        x = told("serve 0 3 1;wed 0 0;part 1 7 apart 0;");
+        due("upper in least terms already", x.share(0, false), 7);
+        due("lower in least terms already", x.share(0, true), 3000);
         x = told("serve 0 5 1;wed 0 0;part 9 1000 apart 0;");
         due("upper of all", x.share(0, false), 1);
         due("lower of all", x.share(0, true), 1);
@@ -577,6 +585,9 @@ public final class PromiseTest {
         x.set(0, 0, NONE);
         due("no BEGIN without RETIRES", x.happens(5), 80060);
         happensFully();
+        x = told("serve 30 40 1;wed 0 20;");
+        due("the first was told last", x.happens(0), 2020);
+        due("the second", x.happens(1), 3000);
         x = told("serve 30 40 1;serve 20 30 1;wed 0 30;part 40 1 apart 1;retire 40;claim 0 45;");
         int[] second = {2000, 3001, 3010, 3020, 4011, 4030, 4040, 4550, NONE};
         for (int i = 0; i < second.length; i++) {
@@ -731,6 +742,8 @@ public final class PromiseTest {
         due("not BORN by RETIRES", x.claimBest(0), NONE);
         x = told("retire 480;wed 480 490;");
         due("BORN by RETIRES, not PARTED", x.claimBest(0), 480);
+        x = told("born 480;retire 480;wed 480 490;");
+        due("both BORN in RETIRES", x.claimBest(0), 480);
     }
 
     private static void half() {
