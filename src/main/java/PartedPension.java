@@ -59,14 +59,12 @@ public final class PartedPension {
     private static final int[] SLOT_LEAST = {0, 0, 0, 0, 0, 0, 1, 0, 0, 0, 0, 0, 0};
     private static final int[] SLOT_MOST = {0, 3, 1, 1799, 1000000, 1000, 119, 100000, 400, 1200, 10, 30, 200};
 
-    private final byte[] tape = new byte[MOST_BYTES];
-    private int tapeLength = 0;
     private int latestFault = 0;
     private final Plan plan = new Plan();
     private final Plan trial = new Plan();
     private final Plan[] past = new Plan[MOST_UNDONE];
     private int pastCount = 0;
-    private final Reader reader = new Reader(tape);
+    private final Reader reader = new Reader();
     private final Reckoner reckoner = new Reckoner();
     private final Calendar calendar = new Calendar();
 
@@ -79,38 +77,29 @@ public final class PartedPension {
     // ---- what is told
 
     public int feed(int a, int b, int c, int d, int e) {
-        if (tapeLength + 20 > MOST_BYTES) {
+        if (reader.length + 20 > MOST_BYTES) {
             return NONE;
         }
-        append(a);
-        append(b);
-        append(c);
-        append(d);
-        append(e);
-        return tapeLength;
-    }
-
-    private void append(int number) {
-        for (int shift = 24; shift >= 0; shift -= 8) {
-            if (tapeLength < MOST_BYTES) {
-                tape[tapeLength] = (byte) (number >>> shift);
-                tapeLength++;
-            }
-        }
+        reader.append(a);
+        reader.append(b);
+        reader.append(c);
+        reader.append(d);
+        reader.append(e);
+        return reader.length;
     }
 
     public boolean end(int n) {
-        if (n < 0 || n > tapeLength) {
+        if (n < 0 || n > reader.length) {
             return false;
         }
-        tapeLength = n;
+        reader.length = n;
         return true;
     }
 
     public int tell() {
         trial.copyFrom(plan);
-        int statements = reader.readAll(tapeLength, trial);
-        tapeLength = 0;
+        int statements = reader.readAll(trial);
+        reader.length = 0;
         latestFault = reader.fault;
         if (latestFault != 0) {
             return NONE;
@@ -169,7 +158,7 @@ public final class PartedPension {
             case 3: return plan.born;
             case 4: return plan.retires;
             case 5: return plan.dies;
-            case 6: return tapeLength;
+            case 6: return reader.length;
             case 7: return pastCount;
             default: return NONE;
         }
@@ -1103,7 +1092,7 @@ public final class PartedPension {
         }
     }
 
-    /** Reads a TEXT and does its STATEMENTS one by one, up to the first FAULT. */
+    /** Holds the TAPE, reads it as a TEXT and does its STATEMENTS one by one, up to the first FAULT. */
     private static final class Reader {
         private static final int TOKEN_END = 0;
         private static final int TOKEN_WORD = 1;
@@ -1112,8 +1101,8 @@ public final class PartedPension {
         private static final int TOKEN_WRONG = 4;
         private static final int MOST_DIGITS = 7;
 
-        private final byte[] bytes;
-        private int length;
+        private final byte[] bytes = new byte[MOST_BYTES];
+        private int length = 0;
         private int next;
         private int token;
         private int place;
@@ -1121,13 +1110,17 @@ public final class PartedPension {
         private final int[] values = new int[4];
         private int fault;
 
-        private Reader(byte[] bytes) {
-            this.bytes = bytes;
+        private void append(int number) {
+            for (int shift = 24; shift >= 0; shift -= 8) {
+                if (length < MOST_BYTES) {
+                    bytes[length] = (byte) (number >>> shift);
+                    length++;
+                }
+            }
         }
 
         /** How many STATEMENTS were done; this counts only if fault is 0. */
-        private int readAll(int textLength, Plan plan) {
-            length = Math.min(textLength, bytes.length);
+        private int readAll(Plan plan) {
             next = 0;
             fault = 0;
             int statements = 0;
