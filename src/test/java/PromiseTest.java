@@ -1,75 +1,8 @@
-import java.util.NoSuchElementException;
-
 /** Each promise by numbers that were worked out by hand from the document. */
-public final class PromiseTest {
-    private static final int NONE = PartedPension.NONE;
-    private static final long NO_NUMBER = PartedPension.NO_NUMBER;
-    private static final int THROWN = -77;
-
-    /** 240 months of service, half of them married: BASE 400, a SHARE of a quarter. */
-    private static final String COUPLE =
-        "born 0; serve 240 480 1000; wed 0 300; part 420 500 shared 600; retire 780;";
-    /** Everybody lives up to 119 years and nothing is discounted: sums can be made by hand. */
-    private static final String FLAT = "interest 0; cola 0; lives 119 100000;";
-    /** ANNUITY by FLAT of one of 780 months: 648 full months, then 12 on the line to 0. */
-    private static final long FLAT_ANNUITY = 654499960000L;
+public final class PromiseTest extends Answers {
     /** THE MEMBER is near the end of the table, the SPOUSE lives to 1799: OWN is 549 by the months left. */
     private static final String LATE = "born 0; serve 900 1140 1000; wed 900 960;"
         + " part 1080 500 apart 0; retire 1430;" + FLAT;
-
-    private static int wrong = 0;
-    private static int asked = 0;
-    private static int promise = 0;
-
-    private static void due(String call, long got, long want) {
-        asked++;
-        if (got != want) {
-            wrong++;
-            System.out.println("promise " + promise + ": " + call + " answered " + got + ", due is " + want);
-        }
-    }
-
-    private static void due(String call, boolean got, boolean want) {
-        due(call, got ? 1 : 0, want ? 1 : 0);
-    }
-
-    private static PartedPension told(String text) {
-        PartedPension x = new PartedPension();
-        if (Feeder.tell(x, text) < 0) {
-            due("tell of " + text, x.fault(), 0);
-        }
-        return x;
-    }
-
-    private static void fault(String text, int kind, int place) {
-        PartedPension x = new PartedPension();
-        due("tell of " + text, Feeder.tell(x, text), NONE);
-        due("fault of " + text, x.fault(), kind + 8 * place);
-        due("count(6) behind " + text, x.count(6), 0);
-        due("count(7) behind " + text, x.count(7), 0);
-    }
-
-    private static void fine(String text, int statements) {
-        PartedPension x = new PartedPension();
-        due("tell of " + text, Feeder.tell(x, text), statements);
-        due("fault of " + text, x.fault(), 0);
-    }
-
-    private static int span(PartedPension x, int k, int what) {
-        try {
-            return x.span(k, what);
-        } catch (NoSuchElementException e) {
-            return THROWN;
-        }
-    }
-
-    private static int spouse(PartedPension x, int k, int what) {
-        try {
-            return x.spouse(k, what);
-        } catch (NoSuchElementException e) {
-            return THROWN;
-        }
-    }
 
     private static void newObject() {
         PartedPension x = new PartedPension();
@@ -792,65 +725,65 @@ public final class PromiseTest {
     }
 
     private static void tellPromises() {
-        promise = 1;
+        at("promise 1");
         newObject();
-        promise = 2;
+        at("promise 2");
         feed();
-        promise = 3;
+        at("promise 3");
         end();
-        promise = 4;
+        at("promise 4");
         tell();
-        promise = 5;
+        at("promise 5");
         faultsOfWriting();
         faultsOfNumbers();
         faultsOfPlans();
-        promise = 6;
+        at("promise 6");
         set();
-        promise = 7;
+        at("promise 7");
         undo();
-        promise = 8;
+        at("promise 8");
         count();
-        promise = 9;
+        at("promise 9");
         spans();
-        promise = 10;
+        at("promise 10");
         spouses();
     }
 
     private static void monthPromises() {
-        promise = 11;
+        at("promise 11");
         service();
-        promise = 12;
+        at("promise 12");
         benefit();
-        promise = 13;
+        at("promise 13");
         whole();
-        promise = 14;
+        at("promise 14");
         share();
-        promise = 15;
+        at("promise 15");
         paid();
-        promise = 16;
+        at("promise 16");
         sum();
-        promise = 17;
+        at("promise 17");
         richest();
-        promise = 18;
+        at("promise 18");
         happens();
     }
 
     private static void worthPromises() {
-        promise = 19;
+        at("promise 19");
         lives();
-        promise = 20;
+        at("promise 20");
         discount();
-        promise = 21;
+        at("promise 21");
         annuity();
-        promise = 22;
+        at("promise 22");
         own();
-        promise = 23;
+        at("promise 23");
         worth();
-        promise = 24;
+        at("promise 24");
         claimBest();
-        promise = 25;
+        at("promise 25");
         half();
-        promise = 26;
+        at("promise 26");
         crosses();
     }
 
@@ -858,9 +791,6 @@ public final class PromiseTest {
         tellPromises();
         monthPromises();
         worthPromises();
-        System.out.println(asked + " answers by hand, " + wrong + " are not as due");
-        if (wrong != 0) {
-            System.exit(1);
-        }
+        finish("by hand");
     }
 }
