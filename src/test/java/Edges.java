@@ -1,5 +1,14 @@
 /** What the tests of the document's sentences have in common; each begins with the sentence that it is of. */
 abstract class Edges extends Answers {
+    static final String EIGHT_SPANS =
+        "serve 0 1 1;serve 1 2 1;serve 2 3 1;serve 3 4 1;serve 4 5 1;serve 5 6 1;serve 6 7 1;serve 7 8 1;";
+    /** The last one is not PARTED. */
+    static final String FOUR_SPOUSES =
+        "wed 0 1;part 2 1 apart 1;wed 0 2;part 3 1 apart 1;wed 0 3;part 4 1 apart 1;wed 0 4;";
+    static final int[] NO_MONTHS = {-1, 1800, Integer.MIN_VALUE, Integer.MAX_VALUE};
+    /** No SPOUSE where one is told; none of these is THE MEMBER or THE REST. */
+    static final int[] NOBODY = {-1, 1, 4, 9, 12, Integer.MIN_VALUE, Integer.MAX_VALUE};
+
     private static final int[] SOME_AGES = {0, 1, 12, 60, 120, 600, 719, 960, 1428, 1439};
     private static Document document;
     private static int sentences = 0;

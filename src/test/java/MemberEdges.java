@@ -1,8 +1,5 @@
 /** The sentences of "Terms", 1: THE MEMBER, the service, the benefit. */
 final class MemberEdges extends Edges {
-    private static final String EIGHT_SPANS =
-        "serve 0 1 1;serve 1 2 1;serve 2 3 1;serve 3 4 1;serve 4 5 1;serve 5 6 1;serve 6 7 1;serve 7 8 1;";
-
     private MemberEdges() {
     }
 

@@ -1,9 +1,5 @@
 /** The sentences of the promises 11 to 18, months. */
 final class MonthEdges extends Edges {
-    private static final int[] NO_MONTHS = {-1, 1800, Integer.MIN_VALUE, Integer.MAX_VALUE};
-    /** With one SPOUSE told. */
-    private static final int[] NOBODY = {-1, 1, 4, 9, 12, Integer.MIN_VALUE, Integer.MAX_VALUE};
-
     private MonthEdges() {
     }
 
@@ -268,8 +264,7 @@ final class MonthEdges extends Edges {
         for (int i : new int[] {-1, 1, 33, 34, Integer.MIN_VALUE, Integer.MAX_VALUE}) {
             due("happens(" + i + ")", x.happens(i), NONE);
         }
-        x = told("serve 0 1 1;serve 1 2 1;serve 2 3 1;serve 3 4 1;serve 4 5 1;serve 5 6 1;serve 6 7 1;serve 7 8 1;",
-            "wed 0 0;part 1 1 apart 1;wed 0 1;part 2 1 apart 1;wed 0 2;part 3 1 apart 1;wed 0 3;part 4 1 apart 1;",
+        x = told(EIGHT_SPANS, "wed 0 0;part 1 1 apart 1;wed 0 1;part 2 1 apart 1;wed 0 2;part 3 1 apart 1;wed 0 3;part 4 1 apart 1;",
             "lost 0 9;lost 1 9;lost 2 9;lost 3 9;dies 1799;retire 8;");
         due("the 33rd of as many as can be", x.happens(32), 963);
         due("the 34th", x.happens(33), 179970);

@@ -231,6 +231,9 @@ final class PaymentEdges extends Edges {
         x = told("wed 0 5;retire 9;");
         due("no BEGIN of one who is not PARTED", x.happens(1), 940);
         due("no BEGIN of one who is not PARTED", x.happens(2), NONE);
+        x = told("retire 9;wed 0 7;dies 5;");
+        due("told last, the first that happens", x.happens(0), 570);
+        due("then the one told ahead of it", x.happens(1), 720);
         x = told("wed 0 5;part 9 1 apart 1;claim 0 9;");
         due("no BEGIN without RETIRES", x.happens(2), NONE);
         x = told("serve 0 1799 1;retire 1799;dies 1799;wed 0 0;part 1799 1 shared 1;lost 0 1799;");

@@ -1,7 +1,5 @@
 /** The sentences of "Terms", 2: SPOUSES, SHARE, DIES, LIVES, V, ODDS, ANNUITY, OWN. */
 final class SpouseEdges extends Edges {
-    private static final String FOUR_SPOUSES =
-        "wed 0 1;part 2 1 apart 1;wed 0 2;part 3 1 apart 1;wed 0 3;part 4 1 apart 1;wed 0 4;";
     private static final String TEN_YEARS = "lives 10 90;lives 11 80;lives 12 70;lives 13 60;lives 14 50;"
         + "lives 15 40;lives 16 30;lives 17 20;lives 18 10;lives 19 5;";
     private static final String WED = "born 100;wed 50 200;";
@@ -158,6 +156,7 @@ final class SpouseEdges extends Edges {
         married(20, 21, 0);
         married(0, 1799, 10);
         due("not PARTED", spouse(told("serve 10 20 5;wed 0 10;"), 0, 8), 0);
+        due("not PARTED, served later", spouse(told("wed 0 10;serve 10 20 5;"), 0, 8), 0);
         due("no service", spouse(told("wed 0 10;part 20 1 apart 1;"), 0, 8), 0);
         due("two SPANS, served later", spouse(told("wed 0 5;part 35 1 apart 1;serve 10 20 5;serve 30 40 5;"), 0, 8), 15);
     }
@@ -267,6 +266,11 @@ final class SpouseEdges extends Edges {
         refusesText(two, "lives 50 399;", 4, 0);
         due("anew, as the lesser one", takesText(two, "lives 60 600;", 1).lives(720), 600);
         refusesText(two, "lives 60 601;", 4, 0);
+        PartedPension x = takesText(two, "lives 40 700;lives 55 500;", 2);
+        int[][] all = {{480, 700}, {600, 600}, {660, 500}, {720, 400}};
+        for (int[] row : all) {
+            due("the others stay, lives(" + row[0] + ")", x.lives(row[0]), row[1]);
+        }
         due("anew, above itself", takesText(two, "lives 50 100000;", 1).lives(600), 100000);
         due("anew, below itself", takesText(two, "lives 60 0;", 1).lives(720), 0);
     }

@@ -73,6 +73,8 @@ final class TextEdges extends Edges {
         }
         due("LIVES", x.lives(600), 58333);
         due("happens", x.happens(0), NONE);
+        due("N", x.benefit(0), 0);
+        due("FINAL", x.benefit(1), 0);
         due("the same BORN", told(ALL_TOLD, "born 0;").count(0), 0);
         says("Terms 4", "| serve NUMBER NUMBER NUMBER (a SPAN more: FROM, TO, PAY)");
         shape("", "serve 5 9 7");
@@ -88,8 +90,10 @@ final class TextEdges extends Edges {
         shape("", "wed 3 5");
         PartedPension x = told("wed 3 5;part 6 7 apart 8;claim 0 9;lost 0 10;", "wed 4 6;");
         int[] anew = {4, 6, NONE, 0, 0, 0, 0, NONE, 0, NONE};
+        PartedPension y = told(ALL_TOLD, "born 0;wed 4 6;");
         for (int what = 0; what < anew.length; what++) {
             due("spouse(1, " + what + ")", spouse(x, 1, what), anew[what]);
+            due("behind born, spouse(0, " + what + ")", spouse(y, 0, what), anew[what]);
         }
         says("Terms 4", "| part NUMBER NUMBER HOW NUMBER (the last SPOUSE: PARTED, PORTION, SURVIVOR; HOW: shared or apart)");
         shape(WED, "part 9 500 apart 600");
@@ -128,6 +132,16 @@ final class TextEdges extends Edges {
 
     private static void words() {
         says("Terms 4", "TOKENS: words (letters a to z, as many as stand there),");
+        for (String word : new String[] {"born", "serve", "wed", "part", "lives", "claim", "lost", "dies", "retire", "per", "normal",
+            "early", "cola", "interest"}) {
+            int last = word.length() - 1;
+            fault(word + " ", 1, last + 2);
+            fault("x" + word.substring(1) + " ", 1, 0);
+            fault(word.substring(0, last) + "x ", 1, 0);
+            fault(word.substring(0, last) + " ", 1, 0);
+            fault(word.substring(1) + " ", 1, 0);
+            fault(word + "x ", 1, 0);
+        }
         fine("per1;", 1);
         fault("pe1;", 1, 0);
         fault("pera1;", 1, 0);
@@ -229,11 +243,9 @@ final class TextEdges extends Edges {
         says("Terms 4", "of one place the least:");
         fault("per 99999999;", 1, 4);
         fault("claim 00000000 5;", 1, 6);
-        String eight = "serve 0 1 1;serve 1 2 1;serve 2 3 1;serve 3 4 1;serve 4 5 1;serve 5 6 1;serve 6 7 1;serve 7 8 1;";
-        fault(eight + "serve 0 1 1;", 3, 96);
-        String four = "wed 0 1;part 2 1 apart 1;wed 0 2;part 3 1 apart 1;wed 0 3;part 4 1 apart 1;wed 0 4;";
-        fault(four + "wed 0 4;", 3, 83);
-        fault(four + "wed 9 8;", 3, 83);
+        fault(EIGHT_SPANS + "serve 0 1 1;", 3, 96);
+        fault(FOUR_SPOUSES + "wed 0 4;", 3, 83);
+        fault(FOUR_SPOUSES + "wed 9 8;", 3, 83);
     }
 
     private static void cantStandThere() {
@@ -276,22 +288,20 @@ final class TextEdges extends Edges {
         refusesText(WED, "claim 0 1800;", 2, 8);
         refusesText(WED, "lost 0 1800;", 2, 7);
         refusesText("", "wed 0 5;born 0;claim 0 9;", 2, 21);
-        String four = "wed 0 1;part 2 1 apart 1;wed 0 2;part 3 1 apart 1;wed 0 3;part 4 1 apart 1;wed 0 4;";
-        takesText(four, "claim 3 9;lost 3 9;", 2);
-        refusesText(four, "claim 4 9;", 2, 6);
-        refusesText(four, "lost 9999999 9;", 2, 5);
+        takesText(FOUR_SPOUSES, "claim 3 9;lost 3 9;", 2);
+        refusesText(FOUR_SPOUSES, "claim 4 9;", 2, 6);
+        refusesText(FOUR_SPOUSES, "lost 9999999 9;", 2, 5);
     }
 
     private static void oneTooMany() {
         says("Terms 4", "3 a 9th SPAN, a 5th SPOUSE, at its word.");
-        String eight = "serve 0 1 1;serve 1 2 1;serve 2 3 1;serve 3 4 1;serve 4 5 1;serve 5 6 1;serve 6 7 1;serve 7 8 1;";
-        fine(eight, 8);
-        fault(eight + "  serve 8 9 1;", 3, 98);
-        fault(eight + "serve", 3, 96);
-        fault(eight + "serve x", 3, 96);
-        fault(eight + "serve 1800 9 1;", 3, 96);
-        fine(eight + "born 0;serve 0 1 1;", 10);
-        String four = "wed 0 1;part 2 1 apart 1;wed 0 2;part 3 1 apart 1;wed 0 3;part 4 1 apart 1;wed 0 4;part 5 1 apart 1;";
+        fine(EIGHT_SPANS, 8);
+        fault(EIGHT_SPANS + "  serve 8 9 1;", 3, 98);
+        fault(EIGHT_SPANS + "serve", 3, 96);
+        fault(EIGHT_SPANS + "serve x", 3, 96);
+        fault(EIGHT_SPANS + "serve 1800 9 1;", 3, 96);
+        fine(EIGHT_SPANS + "born 0;serve 0 1 1;", 10);
+        String four = FOUR_SPOUSES + "part 5 1 apart 1;";
         fine(four, 8);
         fault(four + "\nwed 0 5;", 3, 101);
         fault(four + "wed", 3, 100);

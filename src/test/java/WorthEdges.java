@@ -1,8 +1,5 @@
 /** The sentences of the promises 19 to 26, worths. */
 final class WorthEdges extends Edges {
-    private static final int[] NO_MONTHS = {-1, 1800, Integer.MIN_VALUE, Integer.MAX_VALUE};
-    /** With one SPOUSE told. */
-    private static final int[] NOBODY = {-1, 1, 4, 9, 11, 12, Integer.MIN_VALUE, Integer.MAX_VALUE};
     /** Nobody grows so old by 1799 that LIVES fall: 620 MONTHS from RETIRES on, WHOLE 400, a SHARE of 100. */
     private static final String YOUNG = "born 400;serve 640 880 1000;wed 400 700;part 820 500 shared 600;retire 1180;" + FLAT;
     /** As YOUNG, all of it married. */
@@ -90,6 +87,7 @@ final class WorthEdges extends Edges {
         for (int who : NOBODY) {
             due("of " + who, x.annuity(who, 780, 780), NONE);
         }
+        due("of THE REST", x.annuity(11, 780, 780), NONE);
         for (int month : NO_MONTHS) {
             due("t is " + month, x.annuity(10, month, 1799), NONE);
             due("s is " + month, x.annuity(10, 780, month), NONE);
@@ -157,6 +155,7 @@ final class WorthEdges extends Edges {
         for (int who : NOBODY) {
             due("of " + who, x.worth(who, 1180), NONE);
         }
+        due("of THE REST", x.worth(11, 1180), NONE);
         due("none is BORN", x.worth(0, 399), NONE);
         due("THE MEMBER is not BORN", x.worth(10, 399), NONE);
         x.set(0, 0, NONE);
@@ -214,6 +213,7 @@ final class WorthEdges extends Edges {
         x.set(0, 0, NONE);
         due("no RETIRES", x.claimBest(0), NONE);
         due("BORN in RETIRES", told("retire 480;wed 480 490;part 500 1 apart 1;").claimBest(0), 480);
+        due("THE MEMBER is BORN in RETIRES", told("born 480;retire 480;wed 0 490;part 500 1 apart 1;").claimBest(0), 480);
         due("BORN behind RETIRES", told("retire 480;wed 481 490;part 500 1 apart 1;").claimBest(0), NONE);
         due("no SPOUSE", told("retire 480;").claimBest(0), NONE);
     }
@@ -249,6 +249,7 @@ final class WorthEdges extends Edges {
         x.set(0, 0, NONE);
         due("no RETIRES", x.half(0), NONE);
         due("BORN in RETIRES", told("retire 480;wed 480 490;part 500 1 apart 1;").half(0), 0);
+        due("THE MEMBER is BORN in RETIRES", told("born 480;retire 480;wed 0 490;part 500 1 apart 1;").half(0), 0);
         due("BORN behind RETIRES", told("retire 480;wed 481 490;part 500 1 apart 1;").half(0), NONE);
         due("no SPOUSE", told("retire 480;").half(0), NONE);
     }
