@@ -129,6 +129,7 @@ final class WorthEdges extends Edges {
         due("no RETIRES", x.own(0), NONE);
         due("no RETIRES, not PARTED", x.own(1), NONE);
         due("no SPOUSE", told("retire 700;").own(0), NONE);
+        due("RETIRES 0 is a MONTH, too", told("retire 0;wed 0 0;part 1 1 apart 1;").own(0), 0);
     }
 
     private static void worths() {
@@ -169,6 +170,8 @@ final class WorthEdges extends Edges {
         due("both are BORN", x.worth(0, 500), 0);
         due("of all THE MEMBER alone is asked", x.worth(10, 499), 248000);
         due("no SPOUSE", told("retire 700;").worth(0, 700), NONE);
+        due("RETIRES 0 is a MONTH, too", told("retire 0;wed 0 0;").worth(0, 0), 0);
+        due("RETIRES 0 is a MONTH, too: of all", told("retire 0;").worth(10, 0), 0);
     }
 
     private static void bestClaim() {
@@ -213,6 +216,9 @@ final class WorthEdges extends Edges {
         x.set(0, 0, NONE);
         due("no RETIRES", x.claimBest(0), NONE);
         due("BORN in RETIRES", told("retire 480;wed 480 490;part 500 1 apart 1;").claimBest(0), 480);
+        due("RETIRES 0 is a MONTH, too: APART", told("retire 0;wed 0 0;part 1 1 apart 1;").claimBest(0), 0);
+        due("RETIRES 0 is a MONTH, too: SHARED", told("retire 0;wed 0 0;part 1 1 shared 1;").claimBest(0), 0);
+        due("BORN behind RETIRES 0", told("retire 0;wed 1 1;part 2 1 apart 1;").claimBest(0), NONE);
         due("THE MEMBER is BORN in RETIRES", told("born 480;retire 480;wed 0 490;part 500 1 apart 1;").claimBest(0), 480);
         due("BORN behind RETIRES", told("retire 480;wed 481 490;part 500 1 apart 1;").claimBest(0), NONE);
         due("no SPOUSE", told("retire 480;").claimBest(0), NONE);
@@ -249,6 +255,8 @@ final class WorthEdges extends Edges {
         x.set(0, 0, NONE);
         due("no RETIRES", x.half(0), NONE);
         due("BORN in RETIRES", told("retire 480;wed 480 490;part 500 1 apart 1;").half(0), 0);
+        due("RETIRES 0 is a MONTH, too", told("retire 0;wed 0 0;part 1 1 apart 1;").half(0), 0);
+        due("BORN behind RETIRES 0", told("retire 0;wed 1 1;part 2 1 apart 1;").half(0), NONE);
         due("THE MEMBER is BORN in RETIRES", told("born 480;retire 480;wed 0 490;part 500 1 apart 1;").half(0), 0);
         due("BORN behind RETIRES", told("retire 480;wed 481 490;part 500 1 apart 1;").half(0), NONE);
         due("no SPOUSE", told("retire 480;").half(0), NONE);
